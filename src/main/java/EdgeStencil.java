@@ -683,71 +683,73 @@ public final class EdgeStencil {
         }
     }
 
-    /** FAR of each cell. */
+    /** FAR of each cell, with a rim of CAP around the cells, so that each of them has eight neighbours. */
     private static final class Field {
         private static final int[] STRAIGHT_STEP = {1, 1, 3};
         private static final int[] SLANTED_STEP = {2, 1, 4};
+        private static final int STRIDE = MOST_SIDE + 2;
 
-        private final int[] fars = new int[MOST_SIDE * MOST_SIDE];
+        private final int[] fars = new int[STRIDE * STRIDE];
         private int width = 0;
         private int height = 0;
-        private int straight = 0;
-        private int slanted = 0;
 
         /**
          * Each measure is the length of a way of straight and slanted steps, in any order of them; so all that come
          * from cells passed already can be made first, the others on the way back, and two passes find every way.
          */
         void workOut(Scene scene) {
+            start(scene);
             int metric = isFrom(0, scene.metric, LAST_METRIC) ? scene.metric : 0;
-            width = scene.width;
-            height = scene.height;
-            straight = STRAIGHT_STEP[metric];
-            slanted = SLANTED_STEP[metric];
+            int straight = STRAIGHT_STEP[metric];
+            int slanted = SLANTED_STEP[metric];
             for (int y = 0; y < height; y++) {
                 for (int x = 0; x < width; x++) {
-                    fars[y * MOST_SIDE + x] = scene.edgeAt(x, y) == 1 ? 0 : scene.cap;
-                }
-            }
-            for (int y = 0; y < height; y++) {
-                for (int x = 0; x < width; x++) {
-                    stepTo(x, y, -1);
+                    stepTo(indexOf(x, y), -1, straight, slanted);
                 }
             }
             for (int y = height - 1; y >= 0; y--) {
                 for (int x = width - 1; x >= 0; x--) {
-                    stepTo(x, y, 1);
+                    stepTo(indexOf(x, y), 1, straight, slanted);
                 }
             }
         }
 
-        /** From the cell beside and the three of the row that lies on the given side (-1: left and above). */
-        private void stepTo(int x, int y, int side) {
-            int far = fars[y * MOST_SIDE + x];
-            far = Math.min(far, wayFrom(x + side, y, straight));
-            far = Math.min(far, wayFrom(x, y + side, straight));
-            far = Math.min(far, wayFrom(x - 1, y + side, slanted));
-            far = Math.min(far, wayFrom(x + 1, y + side, slanted));
-            fars[y * MOST_SIDE + x] = far;
+        private void start(Scene scene) {
+            width = scene.width;
+            height = scene.height;
+            for (int i = 0; i < fars.length; i++) {
+                fars[i] = scene.cap;
+            }
+            for (int y = 0; y < height; y++) {
+                for (int x = 0; x < width; x++) {
+                    if (scene.edgeAt(x, y) == 1) {
+                        fars[indexOf(x, y)] = 0;
+                    }
+                }
+            }
         }
 
-        private int wayFrom(int x, int y, int step) {
-            return has(x, y) ? fars[y * MOST_SIDE + x] + step : Integer.MAX_VALUE;
+        /** From the neighbours of one side: -1 those left and above, 1 those right and below. */
+        private void stepTo(int index, int side, int straight, int slanted) {
+            int beyond = index + side * STRIDE;
+            int byStraight = Math.min(fars[index + side], fars[beyond]) + straight;
+            int bySlanted = Math.min(fars[beyond - 1], fars[beyond + 1]) + slanted;
+            fars[index] = Math.min(fars[index], Math.min(byStraight, bySlanted));
         }
 
-        private boolean has(int x, int y) {
-            return x >= 0 && x < width && y >= 0 && y < height;
+        static int indexOf(int x, int y) {
+            return (y + 1) * STRIDE + x + 1;
         }
 
         int at(int x, int y) {
-            return has(x, y) ? fars[y * MOST_SIDE + x] : NONE;
+            return x >= 0 && x < width && y >= 0 && y < height ? fars[indexOf(x, y)] : NONE;
         }
 
         int cellsSoFar(int n) {
             int cells = 0;
             for (int y = 0; y < height; y++) {
                 for (int x = 0; x < width; x++) {
-                    if (fars[y * MOST_SIDE + x] == n) {
+                    if (fars[indexOf(x, y)] == n) {
                         cells++;
                     }
                 }
@@ -760,7 +762,7 @@ public final class EdgeStencil {
             int least = NONE;
             for (int y = Math.max(top, 0); y <= bottom && y < height; y++) {
                 for (int x = Math.max(left, 0); x <= right && x < width; x++) {
-                    int far = fars[y * MOST_SIDE + x];
+                    int far = fars[indexOf(x, y)];
                     if (least == NONE || far < least) {
                         least = far;
                     }
@@ -832,7 +834,7 @@ public final class EdgeStencil {
             worstDot = 0;
             onEdges = 0;
             for (int d = 0; d < shape.dots; d++) {
-                int far = field.fars[(y + shape.dy[d]) * MOST_SIDE + x + shape.dx[d]];
+                int far = field.fars[Field.indexOf(x + shape.dx[d], y + shape.dy[d])];
                 ill += far;
                 if (far == 0) {
                     onEdges++;

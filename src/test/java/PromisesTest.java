@@ -181,7 +181,7 @@ public final class PromisesTest {
 
     private static void faultOfMeasure() {
         fault("g44;m001;m199;m210;m009;m199;", NONE);
-        for (String bad : new String[] {"m000;", "m100;", "m301;", "m/01;", "m0a1;", "m01a;", "m0/1;", "m01:;", "m01;",
+        for (String bad : new String[] {"m000;", "m100;", "m301;", "m/01;", "m0a1;", "m01a;", "m0/1;", "m01:;", "m0:1;", "m01;",
             "m0011;", "m011", "m;", "m"}) {
             fault("g44;" + bad, 4);
         }
@@ -476,6 +476,8 @@ public final class PromisesTest {
         }
         e.edge(1, 0, 1);
         e.edge(0, 2, 1);
+        poseIs(e, 0, 0, 0, 0, 0, 3);
+        poseIs(e, 2, 0, 5, 2, 1, 0);
         poseIs(e, 0, 0, 0, 0, 0, 3);
         EdgeStencil ties = laid(CORNERS + "dff;dfg;dgf;m010;");
         poseIs(ties, 0, 0, 2, 1, 1, 1);
