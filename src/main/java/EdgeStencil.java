@@ -531,7 +531,7 @@ public final class EdgeStencil {
     private static final class Scene {
         private int width = LEAST_SIDE;
         private int height = LEAST_SIDE;
-        /** Bit x of row y is 1, if the cell (x, y) is an edge: a scene is copied at each change, so it is kept small. */
+        /** Bit x of row y is 1, if the cell (x, y) is an edge: small, since a scene is copied at each change. */
         private final int[] rows = new int[MOST_SIDE];
         private final int[] dotX = new int[MOST_DOTS];
         private final int[] dotY = new int[MOST_DOTS];

@@ -1,3 +1,4 @@
+import java.util.Arrays;
 import java.util.Random;
 
 /** Long runs of calls, drawn by a fixed seed, on the class and on the model: each answer must be the same. */
@@ -15,8 +16,8 @@ public final class ModelTest {
 
     private final Due due = new Due("ModelTest");
     private final Random random;
-    private final EdgeStencil stencil = new EdgeStencil();
-    private final Model model = new Model();
+    private final Calls stencil = new Calls(new EdgeStencil());
+    private final Calls model = new Calls(new Model());
     private final int run;
     private int left = CALLS;
     private static int wrongRuns = 0;
@@ -72,9 +73,10 @@ public final class ModelTest {
         } else {
             System.arraycopy(numbers, 0, n, 0, numbers.length);
         }
-        int want = Calls.on(model, call, n[0], n[1], n[2]);
-        int got = Calls.on(stencil, call, n[0], n[1], n[2]);
-        due.is("run " + run + ", call " + (CALLS - left) + ", " + Calls.NAMES[call] + java.util.Arrays.toString(n), want, got);
+        int want = model.call(call, n);
+        int got = stencil.call(call, n);
+        String told = "run " + run + ", call " + (CALLS - left) + ", " + Calls.NAMES[call] + Arrays.toString(n);
+        due.is(told, want, got);
         return want == got;
     }
 

@@ -181,8 +181,8 @@ public final class PromisesTest {
 
     private static void faultOfMeasure() {
         fault("g44;m001;m199;m210;m009;m199;", NONE);
-        for (String bad : new String[] {"m000;", "m100;", "m301;", "m/01;", "m0a1;", "m01a;", "m0/1;", "m01:;", "m0:1;", "m01;",
-            "m0011;", "m011", "m;", "m"}) {
+        for (String bad : new String[] {"m000;", "m100;", "m301;", "m/01;", "m0a1;", "m01a;", "m0/1;", "m01:;", "m0:1;",
+            "m01;", "m0011;", "m011", "m;", "m"}) {
             fault("g44;" + bad, 4);
         }
     }
