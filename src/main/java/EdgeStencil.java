@@ -11,6 +11,8 @@ public final class EdgeStencil {
     private static final int MOST_REACH = 3, MOST_ILL = 990, MOST_TAKEN = 8;
     private static final int MOST_UNDONE = 6;
     private static final int PART_ILL = 5, LAST_PART = 6;
+    /** More than any rank (990, 99, the last manner and place: below 300 million) and any way between two cells. */
+    private static final int BEYOND = 1 << 30;
 
     private static final String AT_FIRST =
             "gaa;r..........;r..####....;r..#.......;r..#....#..;r.......#..;r....####..;r..........;r.#........;r.#........;r.####.....;dff;dgf;dhf;dif;dfe;dfd;m120;";
@@ -149,7 +151,7 @@ public final class EdgeStencil {
             return BAD;
         }
         int found = NONE;
-        int least = Integer.MAX_VALUE;
+        int least = BEYOND;
         for (int row = 0; row < scene.height; row++) {
             for (int column = 0; column < scene.width; column++) {
                 int apart = scene.apart(column - x, row - y);
@@ -720,9 +722,9 @@ public final class EdgeStencil {
             for (int i = 0; i < fars.length; i++) {
                 fars[i] = scene.cap;
             }
-            for (int y = 0; y < height; y++) {
+            for (int y = 0; y < height && y < scene.rows.length; y++) {
                 for (int x = 0; x < width; x++) {
-                    if (scene.edgeAt(x, y) == 1) {
+                    if ((scene.rows[y] >> x & 1) == 1) {
                         fars[indexOf(x, y)] = 0;
                     }
                 }
@@ -879,7 +881,7 @@ public final class EdgeStencil {
 
     /** A pose and how it fits as one number, the lower the earlier in rank; 10 dots of 99 keep it within an int. */
     private static final class Rank {
-        private static final int NOWHERE = Integer.MAX_VALUE;
+        private static final int NOWHERE = BEYOND;
         private static final int PLACES = MOST_SIDE * MOST_SIDE;
         private static final int FLIPS = 2, QUARTERS = 4, SCALES = 3, WORSTS = MOST_CAP + 1;
         private static final int MANNERS = SCALES * QUARTERS * FLIPS;
