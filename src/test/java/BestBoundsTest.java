@@ -61,7 +61,8 @@ public final class BestBoundsTest {
                 .is("best 10 0", NONE);
         run("the first 10 of them, of 8").laid("g44;dff;dii;").is("best -1 0", 8).row("best 7", 0, 0, 2, 3, 1, 198, 99)
                 .are(NONE, "best 8 0", "best 9 0", "best 10 0");
-        run("the first 10 of them, of 4").laid("g54;dff;dji;").is("best -1 0", 4).is("best 3 3", 2).is("best 4 0", NONE);
+        run("the first 10 of them, of 4").laid("g54;dff;dji;").is("best -1 0", 4).is("best 3 3", 2)
+                .is("best 4 0", NONE);
     }
 
     private static void bestNone() {
@@ -219,6 +220,8 @@ public final class BestBoundsTest {
                 .is("cell 3 0", 0).is("cell 4 0", 1).is("count 2", 2);
         run("TOLD by T: SLANT").laid(row + "299;").is("take 2 0", 1).is("cell 1 0", 1).then("undo").is("take 3 0", 2)
                 .is("cell 1 0", 0).is("cell 2 0", 1);
+        run("TOLD by the first of the BEST, not by what was asked").laid(CORNERS + "dff;").is("tells 4 3 0", 1)
+                .is("take 0 0", 1).is("cell 0 0", 0).is("cell 4 3", 1);
         run("TOLD by T, whatever CAP is").laid(row + "001;").is("take 3 0", 4).is("cell 3 0", 0).is("cell 4 0", 1);
         run("how many EDGES went: all").laid("g44;r####;r####;r####;r####;dff;dii;m199;").is("take 3 0", 16)
                 .is("count 2", 0).is("ledger 0 6", 16).is("undo", 0).is("count 2", 16);
@@ -232,7 +235,8 @@ public final class BestBoundsTest {
         run("NO: it tells no EDGE, for there is none").laid("g44;dff;").is("take 3 990", NO).is("count 6", 0)
                 .then("edge 3 3 1").is("take 3 990", 1).is("take 3 990", NO).is("count 6", 2);
         // one diagonal is 1 and 1 off, ahead of the other, which is 0 and 2 off and would tell an edge by 0
-        run("the first of the BEST alone").laid("g44;r.#.#;r....;r....;r..#.;dff;dii;").row("best 0", 0, 0, 2, 0, 0, 2, 1)
+        run("the first of the BEST alone").laid("g44;r.#.#;r....;r....;r..#.;dff;dii;")
+                .row("best 0", 0, 0, 2, 0, 0, 2, 1)
                 .is("take 0 990", NO).is("takes 0 990", 0).then("turn 2 0 1").row("pose 3 0", 2, 2, 1, 1)
                 .is("tells 3 0 0", 1).is("take 1 1", NO).is("take 1 2", 2);
     }
@@ -267,8 +271,9 @@ public final class BestBoundsTest {
             run.is("takes 0 0", times).is("count 2", edges - times).is("ledger -1 0", times).is("takes 0 0", 0);
         }
         run("8 times at most, with some in the LEDGER").laid("g54;r#####;r#####;dff;").then("take 0 0", "take 0 0",
-                "take 0 0").is("takes 0 0", 5).is("count 2", 2).is("ledger -1 0", 8).row("ledger 7", 2, 1, 2, 0, 0, 0, 1)
-                .is("undo", 5).is("takes 0 0", 1).is("takes 0 0", 0).is("count 6", 6);
+                "take 0 0").is("takes 0 0", 5).is("count 2", 2).is("ledger -1 0", 8)
+                .row("ledger 7", 2, 1, 2, 0, 0, 0, 1).is("undo", 5).is("takes 0 0", 1).is("takes 0 0", 0)
+                .is("count 6", 6);
     }
 
     private static void takesStops() {

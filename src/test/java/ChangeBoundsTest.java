@@ -1,4 +1,4 @@
-/** Promises 6 to 10, sentence by sentence: the last number that is allowed, the first that is not, the full, the undone. */
+/** Promises 6 to 10, sentence by sentence: the last number that is allowed, the first that is not, full, undone. */
 public final class ChangeBoundsTest {
     private static final int BAD = Run.BAD, NO = Run.NO, FULL = Run.FULL, NONE = Run.NONE;
     private static final Due DUE = new Due("ChangeBoundsTest");
@@ -28,6 +28,7 @@ public final class ChangeBoundsTest {
         undoTaken();
         undoIsNoChange();
         refusedIsNoChange();
+        lastCall();
         DUE.end();
     }
 
@@ -223,6 +224,19 @@ public final class ChangeBoundsTest {
                 .is("count 2", 0).is("undo", NO);
         run("s, t, f and THE TEXT are no change").laid("g44;dff;").then("edge 0 0 1", "turn 4 3 1", "write 103")
                 .is("count 6", 1).is("undo", 0).is("count 7", 9).is("count 8", 4).is("count 9", 3).is("count 10", 1);
+    }
+
+    private static void lastCall() {
+        Run run = run("at most 512 calls");
+        for (int call = 1; call <= 510; call++) {
+            run.then("edge 9 9 " + call % 2);
+        }
+        run.is("count 6", 6).is("undo", 5);
+        Run asked = run("at most 512 calls");
+        for (int call = 1; call <= 511; call++) {
+            asked.then("measure " + call % 3 + " " + call % 99);
+        }
+        asked.is("best -1 0", 10);
     }
 
     private static void refusedIsNoChange() {

@@ -41,9 +41,9 @@ public final class PoseBoundsTest {
         run("SCALE s (2, 3, 4)").is("turn 4 3 1", 0).are(BAD, "turn 1 0 0", "turn 5 0 0", "turn 0 0 0", "turn -2 0 0",
                 "turn LOW 0 0", "turn HIGH 0 0", "turn 258 0 0").is("count 8", 4).is("turn 2 0 0", 0).is("count 8", 2)
                 .is("turn 3 0 0", 0).is("count 8", 3);
-        run("TURN t (0 to 3)").is("turn 3 1 1", 0).are(BAD, "turn 3 -1 1", "turn 3 4 1", "turn 3 LOW 1", "turn 3 HIGH 1",
-                "turn 3 256 0").is("count 9", 1).is("turn 3 3 1", 0).is("count 9", 3).is("turn 3 0 1", 0)
-                .is("count 9", 0).is("turn 3 2 1", 0).is("count 9", 2);
+        run("TURN t (0 to 3)").is("turn 3 1 1", 0).are(BAD, "turn 3 -1 1", "turn 3 4 1", "turn 3 LOW 1",
+                "turn 3 HIGH 1", "turn 3 256 0").is("count 9", 1).is("turn 3 3 1", 0).is("count 9", 3)
+                .is("turn 3 0 1", 0).is("count 9", 0).is("turn 3 2 1", 0).is("count 9", 2);
         run("FLIP f (0, 1)").is("turn 3 1 1", 0).are(BAD, "turn 3 1 -1", "turn 3 1 2", "turn 3 1 LOW", "turn 3 1 HIGH",
                 "turn 3 1 257").is("count 10", 1).is("turn 3 1 0", 0).is("count 10", 0);
         run("s, t, f are looked at: 0, again too").is("turn 2 0 0", 0).is("turn 2 0 0", 0).is("turn 3 3 1", 0)
@@ -131,7 +131,8 @@ public final class PoseBoundsTest {
                 .row("pose 0 1", 6, 3, 2, 0);
         run("the first DOT, of two so FAR").laid(CORNERS + "dff;dfg;dgf;").row("pose 0 0", 2, 1, 1, 1);
         run("the first DOT, the last alone is so FAR").laid(CORNERS + "dgf;dff;dhf;").row("pose 0 0", 3, 2, 2, 1);
-        run("the first DOT, if none is FAR").laid(CORNERS + "dff;dgf;").then("edge 1 0 1").row("pose 0 0", 0, 0, 0, 2);
+        run("the first DOT, if none is FAR").laid(CORNERS + "dff;dgf;").then("edge 1 0 1").row("pose 0 0", 0, 0, 0, 2)
+                .row("pose 1 0", 1, 1, 1, 1).row("pose 0 0", 0, 0, 0, 2);
         run("CAP at most, of each DOT").laid(CORNERS + "dff;dgf;dfh;").then("measure 0 1").row("pose 0 0", 2, 1, 1, 1)
                 .row("pose 2 1", 3, 1, 0, 0);
     }
@@ -216,7 +217,8 @@ public final class PoseBoundsTest {
     private static void tellsNoMoreThanReach() {
         run("no more than T by CITY").laid("gbb;dff;m001;").then("edge 5 5 1").are(1, "tells 5 5 0", "tells 5 4 1",
                 "tells 5 3 2", "tells 4 4 2", "tells 5 2 3", "tells 8 5 3", "tells 4 3 3", "tells 6 7 3").are(0,
-                "tells 5 4 0", "tells 4 4 1", "tells 5 3 1", "tells 5 2 2", "tells 5 1 3", "tells 9 5 3", "tells 3 3 3");
+                "tells 5 4 0", "tells 4 4 1", "tells 5 3 1", "tells 5 2 2", "tells 5 1 3", "tells 9 5 3",
+                "tells 3 3 3");
         run("no more than T by CHESS").laid("gbb;dff;m101;").then("edge 5 5 1").are(1, "tells 5 5 0", "tells 4 4 1",
                 "tells 3 7 2", "tells 2 2 3", "tells 8 8 3", "tells 2 5 3").are(0, "tells 4 4 0", "tells 3 5 1",
                 "tells 2 5 2", "tells 1 5 3", "tells 9 9 3");

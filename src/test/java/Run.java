@@ -135,6 +135,8 @@ final class Run {
                 ask("best 0 5");
             }
             scene();
+            ask("takes 0 990");
+            ledger();
             ask("lay");
             scene();
             ask("wipe");

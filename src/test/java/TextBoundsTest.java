@@ -1,4 +1,4 @@
-/** Promises 1 to 5, sentence by sentence: the last letter, size and number that is allowed, and the first that is not. */
+/** Promises 1 to 5, sentence by sentence: the last letter, size and number that is allowed, the first that is not. */
 public final class TextBoundsTest {
     private static final int BAD = Run.BAD, NO = Run.NO, FULL = Run.FULL, NONE = Run.NONE;
     private static final Due DUE = new Due("TextBoundsTest");
@@ -31,6 +31,7 @@ public final class TextBoundsTest {
         laidAtLeast();
         laidFull();
         laidAnew();
+        laidAskedAgain();
         layRefused();
         DUE.end();
     }
@@ -121,7 +122,8 @@ public final class TextBoundsTest {
     }
 
     private static void rowsAtMost() {
-        good("H at most", "g54;" + "r.....;".repeat(4), "g4b;" + "r.#..;".repeat(11), "gb4;" + "r#..........;".repeat(4));
+        good("H at most", "g54;" + "r.....;".repeat(4), "g4b;" + "r.#..;".repeat(11),
+                "gb4;" + "r#..........;".repeat(4));
         bad("H at most", "g54;" + "r.....;".repeat(4), "r.....;");
         bad("H at most", "g4b;" + "r.#..;".repeat(11), "r.#..;");
         bad("H at most", "gb4;" + "r#..........;".repeat(4), "r#..........;");
@@ -260,8 +262,19 @@ public final class TextBoundsTest {
                 .is("cell 4 4", 0).is("cell 10 10", 0).is("far 10 10", 99);
     }
 
+    /** What was asked ahead of a lay is asked again behind it. */
+    private static void laidAskedAgain() {
+        run("LAID: FAR and BEST anew").writes("g44;r...#;dff;m142;").is("far 0 0", 2).is("nearest 3 3", 202)
+                .is("best 0 0", 1).is("spread 1 0 1", 9).is("fits", 56).is("lay", 1).is("far 0 0", 3)
+                .is("nearest 3 3", 3).is("best 0 0", 3).is("best 0 1", 0).is("spread 1 0 1", 0).is("fits", 16);
+        run("LAID: FAR anew, of another size").laid("gbb;r#..........;dff;").is("far 10 10", 20).is("best 9 1", 0)
+                .then("wipe").laid("g44;r...#;dff;m001;").is("far 0 0", 1).is("far 3 0", 0).is("far 10 10", BAD)
+                .is("rings 1", 15).then("wipe").laid("gbb;dff;").is("far 10 10", 99).is("rings 99", 121);
+    }
+
     private static void layRefused() {
-        for (String text : new String[] {"", "g44;", "g44;r####;m101;", "g44;dff;dff;", "g44;dff", "dff;", "gcc;dff;"}) {
+        String[] texts = {"", "g44;", "g44;r####;m101;", "g44;dff;dff;", "g44;dff", "dff;", "gcc;dff;"};
+        for (String text : texts) {
             run("NO, and nothing changes | " + text).then("take 0 0", "turn 3 1 1", "edge 0 0 1").writes(text)
                     .is("lay", NO).row("count", 10, 10, 13, 6, 1, 20, 2, text.length(), 3, 1, 1)
                     .is("ledger -1 0", 1).is("ledger 0 6", 6).is("undo", 1).is("undo", 0).is("count 2", 18);
