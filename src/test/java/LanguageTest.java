@@ -36,6 +36,7 @@ public final class LanguageTest {
         String text = Files.readString(Path.of("src/main/java/EdgeStencil.java"));
         String code = bare(text);
         words(code);
+        library(code);
         methodLengths(code);
         DUE.end();
     }
@@ -102,6 +103,16 @@ public final class LanguageTest {
             "\\bObject\\b", "\\bvar\\b", "\\bnative\\b", "\\bvolatile\\b", "\\[\\]\\[\\]\\["};
         for (String word : banned) {
             DUE.holds("the text is without " + word, !Pattern.compile(word).matcher(code).find());
+        }
+    }
+
+    // Of the library's classes the functions that rule 4 names, no constants.
+    private static void library(String code) {
+        Set<String> allowed = Set.of("Math.min", "Math.max", "Math.abs", "Math.floorDiv", "Math.floorMod",
+                "Integer.bitCount", "Integer.compare", "System.arraycopy", "Arrays.fill", "Arrays.copyOf");
+        Matcher used = Pattern.compile("\\b(Math|Integer|Long|Arrays|System|String|Character)\\.\\w+").matcher(code);
+        while (used.find()) {
+            DUE.holds("the library has " + used.group(), allowed.contains(used.group()));
         }
     }
 
